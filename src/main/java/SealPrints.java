@@ -967,7 +967,6 @@ public final class SealPrints {
                 }
             }
             for (int k = 0; k < memberCount; k++) {
-                followers[k] = 0;
                 for (int m = 0; m < memberCount; m++) {
                     note(followers, k, m, isIn(laters[members[k]], members[m]));
                 }
@@ -996,10 +995,10 @@ public final class SealPrints {
             return members[leader];
         }
 
+        /** Where a set has an order, each part of it has one: whatever can lead can be gone on from. */
         private int firstLeader(int left) {
             for (int k = 0; k < memberCount; k++) {
-                if (isIn(left, k) && canLead(k, without(left, k))
-                        && orderCounts[without(left, k)] > 0) {
+                if (isIn(left, k) && canLead(k, without(left, k))) {
                     return k;
                 }
             }

@@ -114,6 +114,18 @@ public final class CastsTest {
         x.scratch(1, 5, true);
         due("28 but not if it fits with 0 alone", x.tell(), 2);
         due("28 as many rings as before", x.fewest(15), 3);
+        // By place 30, print 0 fits with 2 and with 3 as long as these are not seen, 1 with both;
+        // 2 and 3 do not fit. Either may lose 0, but not both at once.
+        x = new SealPrints();
+        x.print(0, Check.places(30));
+        x.print(0, 0);
+        x.print(0, Check.places(1));
+        x.print(0, Check.places(2));
+        x.look(0);
+        x.look(1);
+        due("28 each look for itself alone", x.tell(), Check.NONE);
+        x.look(2);
+        due("28 two of them change it", x.tell(), 3);
     }
 
     private static void promise29Kind() {
@@ -169,9 +181,8 @@ public final class CastsTest {
         x.image();
         for (int p = 3; p < 12; p++) {
             x.print(0, 0);
-            x.set(p, 1, 1111);
         }
-        x.pairs();
+        due("30 pairs ahead of the undo", x.pairs(), 55);
         x.kind(0);
         x.undo();
         due("30 pairs after an undo", x.pairs(), 1);

@@ -95,6 +95,14 @@ public final class RingsTest {
         // Dealt one by one to the first ring that takes it, these would make three rings.
         x = wide(1020, 1040, 1000, 1060);
         due("19 not by the first that fits", x.fewest(15), 2);
+        x = wide(1020, 1000, 1040, 1020);
+        due("19 two that fit with a third, not with each other", x.fewest(7), 2);
+        due("19 every print of a set with gaps", x.fewest(0b0101), 1);
+        due("19 and of another", x.fewest(0b0110), 2);
+        due("19 the last behind a gap", x.fewest(0b1001), 1);
+        x = wide(1000, 1000, 2000, 1000, 3000);
+        due("19 behind two that are not of the set", x.fewest(0b10100), 2);
+        due("19 the one behind a gap", x.fewest(0b10101), 3);
         x = marked(1, 2, 4, 8, 16, 31);
         due("19 five marks apart", x.fewest(63), 5);
     }
@@ -142,6 +150,9 @@ public final class RingsTest {
         due("22 i -1", x.ith(15, -1), Check.BEYOND);
         due("22 empty", x.ith(0, 0), Check.NONE);
         due("22 no such order", marked(1, 2).ith(3, 0), Check.NONE);
+        due("22 no such order of more", marked(1, 3, 2).ith(7, 0), Check.NONE);
+        due("22 no such order, though one could lead", marked(0, 1, 2).ith(7, 0), Check.NONE);
+        due("22 the only order", marked(3, 1).ith(3, 0), 1);
         x = Check.withPrints(12);
         for (int i = 0; i < 8; i++) {
             due("22 by numbers", x.ith(0b111111110000, i), 4 + i);
@@ -174,6 +185,17 @@ public final class RingsTest {
         due("23 two are false", x.falseDate(7), Check.NONE);
         x = marked(1, 3, 2, 7);
         due("23 others of one ring, but it fits nowhere", x.falseDate(15), Check.NONE);
+        x = marked(1, 15, 3, 7);
+        due("23 behind the first", x.falseDate(15), 1);
+        x = marked(15, 7, 3, 1);
+        for (int p = 0; p < 4; p++) {
+            x.set(p, 2, 40 - p);
+        }
+        due("23 numbers against years", x.falseDate(15), Check.STATE);
+        x.set(1, 2, 50);
+        due("23 the row of the others by years", x.falseDate(15), 0);
+        x.set(1, 2, 5);
+        due("23 and from the front", x.falseDate(15), 1);
         x = marked(3, 7, 1, 15);
         due("23 to the front", x.falseDate(15), 2);
     }
@@ -196,6 +218,13 @@ public final class RingsTest {
         due("24 of one year by numbers", x.had(31, 30), 12);
         x.turn(3, 4);
         due("24 the last of two", x.had(31, 50), 24);
+        x = marked(1, 2, 4);
+        x.set(0, 2, 9);
+        x.set(1, 2, 8);
+        x.set(2, 2, 7);
+        x.turn(1, 4);
+        due("24 numbers against years", x.had(7, 9), 3);
+        due("24 numbers against years, earlier", x.had(7, 7), 4);
         x = marked(Check.places(1, 2, 38));
         x.turn(0, 1);
         due("24 what it shows alone", x.had(1, 10), 4);
@@ -224,6 +253,17 @@ public final class RingsTest {
         x.set(1, 2, 30);
         x.set(3, 2, 30);
         due("25 of one year by numbers", x.hadNot(15, 5), 1);
+        x = marked(-2L, -1L);
+        x.look(0);
+        x.look(1);
+        due("25 of all of them", x.hadNot(3, 0), 1);
+        x.set(0, 2, 30);
+        x.turn(0, 4);
+        due("25 numbers against years", x.hadNot(3, 0), 0);
+        x.turn(0, 0);
+        x.turn(1, 4);
+        due("25 the recut one is the first of all", x.hadNot(3, 0), 0);
+        due("25 in its year", x.hadNot(3, 20), 1);
         x = marked(0);
         due("25 what it hides isn't told", x.hadNot(1, 0), low);
         x.look(0);

@@ -229,6 +229,8 @@ public final class SheetsTest {
         due("39 came already", x.read(0), 3);
         lay(x, 0, 64, 2, 4, 1);
         due("39 no print 4", x.read(0), 2);
+        lay(x, 0, 64, 4);
+        due("39 no print 4 at once", x.read(0), 1);
         lay(x, 0, 64, -1);
         due("39 no print -1", x.read(0), 1);
         lay(x, 0, 64, 2, 0x100000001L);

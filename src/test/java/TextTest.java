@@ -101,6 +101,16 @@ public final class TextTest {
         due("33 a word goes on", Check.tell(x, "slacks 1"), -1);
         due("33 a word ends early", Check.tell(x, "prin 1"), -1);
         due("33 a digit in a word", Check.tell(x, "pr1nt"), -1);
+        String[] known = {"print", "burnt", "cast", "forged", "recut", "melted"};
+        for (String word : known) {
+            for (int k = 0; k < word.length(); k++) {
+                String other = word.substring(0, k) + "z" + word.substring(k + 1);
+                due("33 another word: " + other, Check.tell(x, other), -1);
+            }
+            due("33 another word with a z", Check.tell(x, word + "z"), -1);
+            due("33 another word with an a", Check.tell(x, "a" + word), -1);
+            due("33 two words", Check.tell(x, word + " aeens"), -2 - word.length());
+        }
         due("33 large letters", Check.tell(x, "Print"), -1);
         due("33 inside a word", Check.tell(x, "print 1 Seen"), -9);
     }
