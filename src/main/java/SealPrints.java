@@ -633,24 +633,16 @@ public final class SealPrints {
         int trueWidth() {
             switch (kind) {
                 case BURNT:
-                    return unburnt();
+                    return 100 * width / 90;
                 case CAST:
-                    return uncast();
+                    return 100 * width / 97;
                 case FORGED:
-                    return uncast() + 10;
+                    return 100 * width / 97 + 10;
                 case MELTED:
-                    return 100 * unburnt() / 80;
+                    return 100 * (100 * width / 90) / 80;
                 default:
                     return width;
             }
-        }
-
-        private int unburnt() {
-            return 100 * width / 90;
-        }
-
-        private int uncast() {
-            return 100 * width / 97;
         }
 
         long hidden() {
@@ -721,7 +713,11 @@ public final class SealPrints {
         }
 
         boolean canBe(int a, int b) {
-            return widthGap(a, b) <= slack && marksAllow(a, b);
+            return widthsAllow(a, b) && marksAllow(a, b);
+        }
+
+        boolean widthsAllow(int a, int b) {
+            return widthGap(a, b) <= slack;
         }
 
         boolean canAllBe(int ahead, int b) {
@@ -836,8 +832,9 @@ public final class SealPrints {
         }
 
         private void weighPair(int a, int b) {
-            boolean ab = archive.canBe(a, b);
-            boolean ba = archive.canBe(b, a);
+            boolean near = archive.widthsAllow(a, b);
+            boolean ab = near && archive.marksAllow(a, b);
+            boolean ba = near && archive.marksAllow(b, a);
             boolean fit = archive.isEarlier(a, b) ? ab : ba;
             note(laters, a, b, ab);
             note(laters, b, a, ba);
@@ -1092,27 +1089,22 @@ public final class SealPrints {
             int told = NOBODY;
             int greatest = 0;
             for (int p = 0; p < archive.size; p++) {
-                int change = changeByLook(p, all, now);
+                Print it = archive.prints[p];
+                if (it.seen) {
+                    continue;
+                }
+                int matesNow = mates[p];
+                it.seen = true;
+                weighOne(p);
+                int change = mates[p] == matesNow ? 0 : Math.abs(fewestRings(all) - now);
+                it.seen = false;
+                weighOne(p);
                 if (change > greatest) {
                     greatest = change;
                     told = p;
                 }
             }
             return told;
-        }
-
-        private int changeByLook(int p, int all, int now) {
-            Print it = archive.prints[p];
-            if (it.seen) {
-                return 0;
-            }
-            int matesNow = mates[p];
-            it.seen = true;
-            weighOne(p);
-            int change = mates[p] == matesNow ? 0 : Math.abs(fewestRings(all) - now);
-            it.seen = false;
-            weighOne(p);
-            return change;
         }
 
         int likeliestKind(int p) {
