@@ -20,27 +20,8 @@ public final class RingsTest {
         CHECK.due(what, got, want);
     }
 
-    /** Plain prints with these marks, in years 10, 20, .. */
-    private static SealPrints marked(long... marks) {
-        SealPrints x = new SealPrints();
-        for (int p = 0; p < marks.length; p++) {
-            x.print(0, marks[p]);
-            x.set(p, 2, 10 * (p + 1));
-        }
-        return x;
-    }
-
-    /** Plain prints without marks of these widths: which fit goes by widths alone. */
-    private static SealPrints wide(int... widths) {
-        SealPrints x = Check.withPrints(widths.length);
-        for (int p = 0; p < widths.length; p++) {
-            x.set(p, 1, widths[p]);
-        }
-        return x;
-    }
-
     private static void promise16Ring() {
-        SealPrints x = marked(1, 3, 7, 5);
+        SealPrints x = Samples.marked(1, 3, 7, 5);
         due("16 empty", x.ring(0), 1);
         due("16 one alone", x.ring(8), 1);
         due("16 marks come", x.ring(7), 1);
@@ -53,19 +34,19 @@ public final class RingsTest {
         due("16 of one year by numbers", x.ring(5), 1);
         x.set(0, 2, 31);
         due("16 later by a year", x.ring(5), 0);
-        x = wide(1000, 1020, 1040);
+        x = Samples.wide(1000, 1020, 1040);
         due("16 every two are asked", x.ring(7), 0);
         due("16 neighbours fit", x.ring(3) + x.ring(6), 2);
-        x = marked(1, 0, 1);
+        x = Samples.marked(1, 0, 1);
         x.turn(1, 4);
         due("16 a recut one between", x.ring(7), 1);
-        x = marked(1, 0, 0);
+        x = Samples.marked(1, 0, 0);
         x.turn(1, 4);
         due("16 each later one is asked, behind a recut one, too", x.ring(7), 0);
     }
 
     private static void promise17And18MostAndBest() {
-        SealPrints x = marked(1, 2, 3, 7, 4);
+        SealPrints x = Samples.marked(1, 2, 3, 7, 4);
         due("17 empty", x.most(0), 0);
         due("18 empty", x.best(0), 0);
         due("17 of all", x.most(31), 3);
@@ -74,7 +55,7 @@ public final class RingsTest {
         due("17 of two that are none", x.most(3), 1);
         due("18 of two that are none", x.best(3), 1);
         due("18 the least as a set, not the first by years", x.best(0b10110), 0b00110);
-        x = wide(1000, 2000, 1000, 2000, 1000, 2000, 1000, 2000, 3000, 3000, 3000, 3000);
+        x = Samples.wide(1000, 2000, 1000, 2000, 1000, 2000, 1000, 2000, 3000, 3000, 3000, 3000);
         due("17 of twelve", x.most(4095), 4);
         due("18 the least of three", x.best(4095), 0b1010101);
         due("18 without print 0", x.best(4094), 0b10101010);
@@ -83,38 +64,38 @@ public final class RingsTest {
     }
 
     private static void promise19Fewest() {
-        SealPrints x = wide(1000, 1020, 1040, 1060);
+        SealPrints x = Samples.wide(1000, 1020, 1040, 1060);
         due("19 empty", x.fewest(0), 0);
         due("19 one", x.fewest(4), 1);
         due("19 a chain of four", x.fewest(15), 2);
         due("19 a chain of three", x.fewest(7), 2);
         due("19 both ends", x.fewest(9), 2);
-        x = wide(1000, 2000, 3000, 4000, 5000, 6000, 7000, 8000, 9000, 100, 200, 300);
+        x = Samples.wide(1000, 2000, 3000, 4000, 5000, 6000, 7000, 8000, 9000, 100, 200, 300);
         due("19 twelve rings", x.fewest(4095), 12);
         due("19 one ring", Check.withPrints(12).fewest(4095), 1);
         // Dealt one by one to the first ring that takes it, these would make three rings.
-        x = wide(1020, 1040, 1000, 1060);
+        x = Samples.wide(1020, 1040, 1000, 1060);
         due("19 not by the first that fits", x.fewest(15), 2);
-        x = wide(1020, 1000, 1040, 1020);
+        x = Samples.wide(1020, 1000, 1040, 1020);
         due("19 two that fit with a third, not with each other", x.fewest(7), 2);
         due("19 every print of a set with gaps", x.fewest(0b0101), 1);
         due("19 and of another", x.fewest(0b0110), 2);
         due("19 the last behind a gap", x.fewest(0b1001), 1);
-        x = wide(1000, 1000, 2000, 1000, 3000);
+        x = Samples.wide(1000, 1000, 2000, 1000, 3000);
         due("19 behind two that are not of the set", x.fewest(0b10100), 2);
         due("19 the one behind a gap", x.fewest(0b10101), 3);
-        x = marked(1, 2, 4, 8, 16, 31);
+        x = Samples.marked(1, 2, 4, 8, 16, 31);
         due("19 five marks apart", x.fewest(63), 5);
     }
 
     private static void promise20Alone() {
-        SealPrints x = wide(1000, 1020, 1040, 2000);
+        SealPrints x = Samples.wide(1000, 1020, 1040, 2000);
         due("20 empty", x.alone(0), 0);
         due("20 one", x.alone(2), 2);
         due("20 of all", x.alone(15), 8);
         due("20 of both ends", x.alone(5), 5);
         due("20 of three", x.alone(13), 13);
-        x = marked(3, 1);
+        x = Samples.marked(3, 1);
         due("20 by years they aren't", x.alone(3), 3);
         x.set(0, 2, 30);
         due("20 by years they are", x.alone(3), 0);
@@ -127,19 +108,19 @@ public final class RingsTest {
         due("21 eight of twelve", Check.withPrints(12).orders(0b111100001111), 40320);
         due("21 nine", Check.withPrints(12).orders(511), Check.SIZE);
         due("21 twelve", Check.withPrints(12).orders(4095), Check.SIZE);
-        SealPrints x = marked(7, 3, 1);
+        SealPrints x = Samples.marked(7, 3, 1);
         due("21 in one, whatever years", x.orders(7), 1);
         due("21 and by years in none", x.ring(7), 0);
-        due("21 two unlike", marked(1, 2).orders(3), 0);
-        due("21 two of three alike", marked(1, 3, 3).orders(7), 2);
-        x = marked(1, 2);
+        due("21 two unlike", Samples.marked(1, 2).orders(3), 0);
+        due("21 two of three alike", Samples.marked(1, 3, 3).orders(7), 2);
+        x = Samples.marked(1, 2);
         x.turn(1, 4);
         due("21 the recut one behind", x.orders(3), 1);
         due("21 the ninth is asked behind BEYOND", Check.withPrints(9).orders(1023), Check.BEYOND);
     }
 
     private static void promise22Ith() {
-        SealPrints x = marked(7, 3, 1, 3);
+        SealPrints x = Samples.marked(7, 3, 1, 3);
         int[] first = {2, 1, 3, 0};
         for (int i = 0; i < 4; i++) {
             due("22 in order", x.ith(15, i), first[i]);
@@ -149,10 +130,11 @@ public final class RingsTest {
         due("22 i 8", x.ith(15, 8), Check.BEYOND);
         due("22 i -1", x.ith(15, -1), Check.BEYOND);
         due("22 empty", x.ith(0, 0), Check.NONE);
-        due("22 no such order", marked(1, 2).ith(3, 0), Check.NONE);
-        due("22 no such order of more", marked(1, 3, 2).ith(7, 0), Check.NONE);
-        due("22 no such order, though one could lead", marked(0, 1, 2).ith(7, 0), Check.NONE);
-        due("22 the only order", marked(3, 1).ith(3, 0), 1);
+        due("22 no such order", Samples.marked(1, 2).ith(3, 0), Check.NONE);
+        due("22 no such order of more", Samples.marked(1, 3, 2).ith(7, 0), Check.NONE);
+        due("22 no such order, though one could lead", Samples.marked(0, 1, 2).ith(7, 0),
+                Check.NONE);
+        due("22 the only order", Samples.marked(3, 1).ith(3, 0), 1);
         x = Check.withPrints(12);
         for (int i = 0; i < 8; i++) {
             due("22 by numbers", x.ith(0b111111110000, i), 4 + i);
@@ -161,7 +143,7 @@ public final class RingsTest {
         due("22 nine, i 8", x.ith(511, 8), Check.BEYOND);
         due("22 no print 12", x.ith(4096, 0), Check.BEYOND);
         // 0 ahead of 1 can be, but then 2 stands nowhere: 0 must not come first.
-        x = marked(2, 2, 1);
+        x = Samples.marked(2, 2, 1);
         x.turn(0, 4);
         x.turn(1, 4);
         due("22 the first order that can be ended", x.ith(7, 0), 2);
@@ -169,25 +151,25 @@ public final class RingsTest {
     }
 
     private static void promise23FalseDate() {
-        SealPrints x = marked(1, 3, 7, 0);
+        SealPrints x = Samples.marked(1, 3, 7, 0);
         due("23 the last one", x.falseDate(15), 3);
         due("23 it is of one ring", x.falseDate(7), Check.STATE);
         due("23 empty", x.falseDate(0), Check.STATE);
         due("23 one alone", x.falseDate(8), Check.STATE);
         due("23 of two the least", x.falseDate(9), 0);
-        x = marked(7, 1, 3, 15);
+        x = Samples.marked(7, 1, 3, 15);
         due("23 into the middle", x.falseDate(15), 0);
-        x = marked(31, 1, 3, 7);
+        x = Samples.marked(31, 1, 3, 7);
         due("23 to the end", x.falseDate(15), 0);
-        x = marked(1, 2);
+        x = Samples.marked(1, 2);
         due("23 none fits anywhere", x.falseDate(3), Check.NONE);
-        x = marked(7, 3, 1);
+        x = Samples.marked(7, 3, 1);
         due("23 two are false", x.falseDate(7), Check.NONE);
-        x = marked(1, 3, 2, 7);
+        x = Samples.marked(1, 3, 2, 7);
         due("23 others of one ring, but it fits nowhere", x.falseDate(15), Check.NONE);
-        x = marked(1, 15, 3, 7);
+        x = Samples.marked(1, 15, 3, 7);
         due("23 behind the first", x.falseDate(15), 1);
-        x = marked(15, 7, 3, 1);
+        x = Samples.marked(15, 7, 3, 1);
         for (int p = 0; p < 4; p++) {
             x.set(p, 2, 40 - p);
         }
@@ -196,12 +178,12 @@ public final class RingsTest {
         due("23 the row of the others by years", x.falseDate(15), 0);
         x.set(1, 2, 5);
         due("23 and from the front", x.falseDate(15), 1);
-        x = marked(3, 7, 1, 15);
+        x = Samples.marked(3, 7, 1, 15);
         due("23 to the front", x.falseDate(15), 2);
     }
 
     private static void promise24Had() {
-        SealPrints x = marked(1, 2, 4, 8, 16);
+        SealPrints x = Samples.marked(1, 2, 4, 8, 16);
         due("24 ahead of all", x.had(31, 9), 0);
         due("24 in the year itself", x.had(31, 10), 1);
         due("24 all earlier ones", x.had(31, 49), 15);
@@ -218,14 +200,14 @@ public final class RingsTest {
         due("24 of one year by numbers", x.had(31, 30), 12);
         x.turn(3, 4);
         due("24 the last of two", x.had(31, 50), 24);
-        x = marked(1, 2, 4);
+        x = Samples.marked(1, 2, 4);
         x.set(0, 2, 9);
         x.set(1, 2, 8);
         x.set(2, 2, 7);
         x.turn(1, 4);
         due("24 numbers against years", x.had(7, 9), 3);
         due("24 numbers against years, earlier", x.had(7, 7), 4);
-        x = marked(Check.places(1, 2, 38));
+        x = Samples.marked(Check.places(1, 2, 38));
         x.turn(0, 1);
         due("24 what it shows alone", x.had(1, 10), 4);
         due("24 year -1", x.had(1, -1), Check.BEYOND);
@@ -235,7 +217,7 @@ public final class RingsTest {
     private static void promise25HadNot() {
         long all = 0xFFFFFFFFFFL;
         long low = 0x3FFFFFFFL;
-        SealPrints x = marked(-1L, -2L, -4L, -8L);
+        SealPrints x = Samples.marked(-1L, -2L, -4L, -8L);
         for (int p = 0; p < 4; p++) {
             x.look(p);
         }
@@ -253,7 +235,7 @@ public final class RingsTest {
         x.set(1, 2, 30);
         x.set(3, 2, 30);
         due("25 of one year by numbers", x.hadNot(15, 5), 1);
-        x = marked(-2L, -1L);
+        x = Samples.marked(-2L, -1L);
         x.look(0);
         x.look(1);
         due("25 of all of them", x.hadNot(3, 0), 1);
@@ -264,7 +246,7 @@ public final class RingsTest {
         x.turn(1, 4);
         due("25 the recut one is the first of all", x.hadNot(3, 0), 0);
         due("25 in its year", x.hadNot(3, 20), 1);
-        x = marked(0);
+        x = Samples.marked(0);
         due("25 what it hides isn't told", x.hadNot(1, 0), low);
         x.look(0);
         due("25 when it is seen", x.hadNot(1, 0), all);
@@ -276,7 +258,7 @@ public final class RingsTest {
     private static void wrongSets() {
         int[] wrong = {8, 9, 4096, -1, Integer.MIN_VALUE, 1 << 30, -8};
         for (int set : wrong) {
-            SealPrints x = marked(1, 3, 2);
+            SealPrints x = Samples.marked(1, 3, 2);
             due("16 wrong set", x.ring(set), Check.BEYOND);
             due("17 wrong set", x.most(set), Check.BEYOND);
             due("18 wrong set", x.best(set), Check.BEYOND);

@@ -20,14 +20,6 @@ public final class SheetsTest {
         CHECK.due(what, got, want);
     }
 
-    /** Lays a sheet of these numbers. */
-    private static void lay(SealPrints x, int s, int bits, long... numbers) {
-        x.sheet(s, bits, numbers.length);
-        for (int i = 0; i < numbers.length; i++) {
-            x.write(s, i, numbers[i]);
-        }
-    }
-
     private static long sum(SealPrints x, int s, int n) {
         long all = 0;
         for (int i = 0; i < n; i++) {
@@ -47,7 +39,7 @@ public final class SheetsTest {
             due("34 none isn't missing", x.show(3), 0);
             due("34 no number 0", x.write(3, 0, 1), Check.BEYOND);
         }
-        lay(x, 0, 64, 5, 6);
+        Samples.lay(x, 0, 64, 5, 6);
         due("34 laid anew", x.sheet(0, 64, 3), 3);
         due("34 all 0", sum(x, 0, 3), 0);
         due("34 missing", x.sheet(0, 0, 7), 0);
@@ -113,8 +105,8 @@ public final class SheetsTest {
 
     private static void promise36Copy() {
         SealPrints x = new SealPrints();
-        lay(x, 0, 64, 1, 2, 3, 4, 5);
-        lay(x, 1, 64, 6, 7, 8);
+        Samples.lay(x, 0, 64, 1, 2, 3, 4, 5);
+        Samples.lay(x, 1, 64, 6, 7, 8);
         due("36 two", x.copy(0, 3, 1, 0, 2), 2);
         due("36 came", sum(x, 1, 3), 458);
         due("36 the first stays", sum(x, 0, 5), 12345);
@@ -125,17 +117,17 @@ public final class SheetsTest {
         due("36 none", x.copy(0, 5, 1, 3, 0), 0);
         due("36 all", x.copy(1, 0, 0, 2, 3), 3);
         due("36 came", sum(x, 0, 5), 23458);
-        lay(x, 2, 8, -3, 2);
-        lay(x, 3, 8, 0);
+        Samples.lay(x, 2, 8, -3, 2);
+        Samples.lay(x, 3, 8, 0);
         due("36 of eight bits", x.copy(2, 0, 3, 0, 1), 1);
         due("36 came with its sign", x.write(3, 0, 0), -3);
     }
 
     private static void promise36Wrong() {
         SealPrints x = new SealPrints();
-        lay(x, 0, 16, 1, 2, 3);
-        lay(x, 1, 16, 4, 5);
-        lay(x, 2, 8, 6, 7);
+        Samples.lay(x, 0, 16, 1, 2, 3);
+        Samples.lay(x, 1, 16, 4, 5);
+        Samples.lay(x, 2, 8, 6, 7);
         due("36 sheet 4", x.copy(4, 0, 0, 0, 1), Check.BEYOND);
         due("36 sheet -1 ahead of missing", x.copy(3, 0, -1, 0, 1), Check.BEYOND);
         due("36 from a missing one", x.copy(3, 0, 0, 0, 1), Check.MISSING);
@@ -158,7 +150,7 @@ public final class SheetsTest {
         due("37 missing", x.dates(0), Check.MISSING);
         due("37 sheet 4", x.dates(4), Check.BEYOND);
         due("37 sheet -1", x.dates(-1), Check.BEYOND);
-        lay(x, 0, 64, 2000, -1, 0x100000005L, 0, 9, 9);
+        Samples.lay(x, 0, 64, 2000, -1, 0x100000005L, 0, 9, 9);
         x.set(1, 2, 11);
         x.set(2, 2, 12);
         x.set(3, 2, 13);
@@ -167,19 +159,19 @@ public final class SheetsTest {
         due("37 below 0 is left out", x.of(1, 2), 11);
         due("37 too great is left out", x.of(2, 2), 12);
         due("37 year 0", x.of(3, 2), 0);
-        lay(x, 1, 16, 2001, 7);
+        Samples.lay(x, 1, 16, 2001, 7);
         due("37 2001", x.dates(1), 1);
         due("37 left out", x.of(0, 2), 2000);
         due("37 as far as it has numbers", x.of(1, 2), 7);
         due("37 and no further", x.of(2, 2), 12);
-        lay(x, 2, 8, 200, 100);
+        Samples.lay(x, 2, 8, 200, 100);
         due("37 200 of eight bits is below 0", x.dates(2), 1);
         due("37 no prints", emptyDates(), 0);
     }
 
     private static long emptyDates() {
         SealPrints x = new SealPrints();
-        lay(x, 0, 8, 1, 2, 3);
+        Samples.lay(x, 0, 8, 1, 2, 3);
         return x.dates(0);
     }
 
@@ -192,19 +184,19 @@ public final class SheetsTest {
         x.print(1, -1L);
         x.print(0, -1L);
         x.look(2);
-        lay(x, 1, 64, 9, 9, 9, 9);
+        Samples.lay(x, 1, 64, 9, 9, 9, 9);
         due("38 three", x.show(1), 3);
         due("38 what the first shows", x.write(1, 0, 0), 0x3FFFFFFFL);
         due("38 what the burnt one shows", x.write(1, 1, 0), 0x15555555L);
         due("38 what the seen one shows", x.write(1, 2, 0), 0xFFFFFFFFFFL);
         due("38 the others stay", x.write(1, 3, 0), 9);
-        lay(x, 2, 64, 9);
+        Samples.lay(x, 2, 64, 9);
         due("38 as far as it has numbers", x.show(2), 1);
-        lay(x, 3, 8, 9, 9);
+        Samples.lay(x, 3, 8, 9, 9);
         due("38 eight bits", x.show(3), 2);
         due("38 the lowest", x.write(3, 0, 0), -1);
         due("38 the lowest", x.write(3, 1, 0), 0x55);
-        lay(x, 3, 16, 9, 9);
+        Samples.lay(x, 3, 16, 9, 9);
         due("38 sixteen bits", x.show(3), 2);
         due("38 the lowest", x.write(3, 1, 0), 0x5555);
     }
@@ -219,31 +211,31 @@ public final class SheetsTest {
         x.print(0, 1);
         x.print(0, 8);
         x.set(0, 2, 1);
-        lay(x, 0, 64, 2, 1, 0);
+        Samples.lay(x, 0, 64, 2, 1, 0);
         due("39 a row, whatever years", x.read(0), 0);
-        lay(x, 0, 64, 2, 0, 1);
+        Samples.lay(x, 0, 64, 2, 0, 1);
         due("39 one that came can't be ahead", x.read(0), 3);
-        lay(x, 0, 64, 3, 2, 1);
+        Samples.lay(x, 0, 64, 3, 2, 1);
         due("39 already the second", x.read(0), 2);
-        lay(x, 0, 64, 2, 1, 2);
+        Samples.lay(x, 0, 64, 2, 1, 2);
         due("39 came already", x.read(0), 3);
-        lay(x, 0, 64, 2, 4, 1);
+        Samples.lay(x, 0, 64, 2, 4, 1);
         due("39 no print 4", x.read(0), 2);
-        lay(x, 0, 64, 4);
+        Samples.lay(x, 0, 64, 4);
         due("39 no print 4 at once", x.read(0), 1);
-        lay(x, 0, 64, -1);
+        Samples.lay(x, 0, 64, -1);
         due("39 no print -1", x.read(0), 1);
-        lay(x, 0, 64, 2, 0x100000001L);
+        Samples.lay(x, 0, 64, 2, 0x100000001L);
         due("39 a long that ends like a print", x.read(0), 2);
-        lay(x, 0, 8, 2, 257);
+        Samples.lay(x, 0, 8, 2, 257);
         due("39 of eight bits it is one", x.read(0), 0);
-        lay(x, 0, 8);
+        Samples.lay(x, 0, 8);
         due("39 empty", x.read(0), 0);
         x = new SealPrints();
         x.print(0, 1);
         x.print(4, 0);
         x.print(0, 0);
-        lay(x, 0, 16, 0, 1, 2);
+        Samples.lay(x, 0, 16, 0, 1, 2);
         due("39 every one that came is asked", x.read(0), 3);
         x.slack(0);
         x.set(1, 1, 999);
