@@ -391,7 +391,8 @@ public final class EdgeTextTest {
 
     private static void endsTooEarly() {
         String[] texts = {"", " ", "    ", "print;", "print ; ", "slack", "slack ", "look",
-            "look  ", "print width", "print 1 width ", "print year", "print year  ", "slack 1;look"};
+            "look  ", "print width", "print 1 width ", "print year", "print year  ",
+            "slack 1;look"};
         for (String text : texts) {
             fault("it ends too early", text, text.length());
         }
