@@ -1,6 +1,9 @@
 import java.io.IOException;
+import java.lang.reflect.Field;
+import java.lang.reflect.Modifier;
 import java.nio.file.Files;
 import java.nio.file.Path;
+import java.util.Set;
 import java.util.regex.Matcher;
 import java.util.regex.Pattern;
 
@@ -13,6 +16,10 @@ public final class RulesTest {
     private static final String[] WORDS_RULED_OUT = {"throw", "throws", "try", "catch",
         "synchronized", "assert", "package", "protected", "import", "native", "var", "Object",
         "hashCode", "random", "currentTimeMillis", "nanoTime", "Thread", "File"};
+    private static final Set<String> LIBRARY = Set.of("Math.abs", "Math.min", "Math.max",
+            "Integer.bitCount", "Long.bitCount", "System.arraycopy");
+    private static final Set<String> STATIC_TYPES = Set.of("int", "long", "boolean", "char",
+            "java.lang.String", "[I", "[J", "[C", "[B");
     private static final Pattern METHOD = Pattern.compile(
             "^( +)(?:(?:public|private|static|final) )*[\\w\\[\\]]+(?: \\w+)?\\(([^)]*)\\) \\{$");
 
@@ -34,7 +41,35 @@ public final class RulesTest {
         CHECK.holds("one public class", count(bare, "public (final )?class") == 1);
         CHECK.holds("texts hold plain signs alone", source.chars().allMatch(c -> c < 128));
         methodsStayShort(source);
+        libraryIsListed(bare);
+        fieldsAreFewAndPlain(SealPrints.class);
+        for (Class<?> inside : SealPrints.class.getDeclaredClasses()) {
+            fieldsAreFewAndPlain(inside);
+        }
         CHECK.end();
+    }
+
+    private static void libraryIsListed(String bare) {
+        Matcher m = Pattern.compile("\\b[A-Z][a-z]\\w*\\.\\w+").matcher(bare);
+        int found = 0;
+        while (m.find()) {
+            found++;
+            CHECK.holds("rule 4: " + m.group() + " is listed", LIBRARY.contains(m.group()));
+        }
+        CHECK.holds("the library is used", found > 0);
+    }
+
+    private static void fieldsAreFewAndPlain(Class<?> it) {
+        int own = 0;
+        for (Field f : it.getDeclaredFields()) {
+            if (Modifier.isStatic(f.getModifiers())) {
+                CHECK.holds("rule 5: final: " + f, Modifier.isFinal(f.getModifiers()));
+                CHECK.holds("rule 5: its type: " + f, STATIC_TYPES.contains(f.getType().getName()));
+            } else {
+                own++;
+            }
+        }
+        CHECK.holds("rule 11: some twenty fields: " + it, own <= 20);
     }
 
     private static int count(String text, String pattern) {
